@@ -4,6 +4,7 @@ public final class Promise05FillTest {
         everyStartAndEnd();
         lowestEightBits();
         acrossPages();
+        allButOneByteOfAPage();
         storesIntoFilledPages();
         countsAndReservations();
         nothingToFill();
@@ -50,6 +51,17 @@ public final class Promise05FillTest {
         m.fill(Check.BASE, Check.BASE + 5 * Check.PAGE, 0);
         Check.same("used after all is 0", m.used(), 0);
         Check.same("sum after all is 0", m.sum(0), 0);
+    }
+
+    private static void allButOneByteOfAPage() {
+        SharedMemory m = new SharedMemory(1);
+        m.fill(Check.BASE, Check.BASE + Check.PAGE - 1, 6);
+        Check.same("but for the last", m.sum(0), 6 * (8390656L - 4096));
+        Check.same("the last", m.load(Check.BASE + Check.PAGE - 1, 1), 0);
+        m.fill(Check.BASE, Check.BASE + Check.PAGE, 0);
+        m.fill(Check.BASE + 1, Check.BASE + Check.PAGE, 6);
+        Check.same("but for the first", m.sum(0), 6 * (8390656L - 1));
+        Check.same("the first", m.load(Check.BASE, 1), 0);
     }
 
     /** A page may go from one value to many and back any number of times. */
