@@ -6,7 +6,9 @@ import java.util.Objects;
  */
 public final class LongRunsTest {
     private static final int RUNS = 1500;
-    private static final int CALLS = 512;
+    /** With the look at the end no object is asked more than the 512 times that the document allows. */
+    private static final int CALLS = 500;
+    private static final int MOST_PAGES_LOOKED_AT = 4;
     private static final int[] SIZES = {1, 2, 4, 8, 4, 8, 8, 4};
     private static final int[] KINDS = {0, 1, 2, 3, 2, 3, 2, 3, 4, 8, 12, 16, 20, 24, 28};
     private static final long[] ODD = {0, 1, 7, -1, -8, Long.MIN_VALUE, Long.MAX_VALUE, Check.BASE + (1L << 32)};
@@ -77,7 +79,7 @@ public final class LongRunsTest {
         }
         Check.same("pages at the end", got.pages(), due.pages);
         Check.same("used at the end", got.used(), due.used());
-        for (int p = 0; p < due.pages; p++) {
+        for (int p = 0; p < Math.min(due.pages, MOST_PAGES_LOOKED_AT); p++) {
             Check.same("sum at the end", got.sum(p), due.sum(p));
             Check.same("writes at the end", got.writes(p), due.writes(p));
         }

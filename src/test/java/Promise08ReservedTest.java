@@ -1,35 +1,57 @@
 /** Promise 8: reserved. */
 public final class Promise08ReservedTest {
     public static void main(String[] args) {
-        answersTheAddress();
-        wrongProcessors();
+        Check.sentence("The address that a processor has a reservation of", Promise08ReservedTest::answersTheAddress);
+        Check.sentence("0 when it has none. (a new object)", Promise08ReservedTest::zeroAtFirst);
+        Check.sentence("0 when it has none. (it had one)", Promise08ReservedTest::zeroWhenItIsGone);
+        Check.sentence("throws IndexOutOfBoundsException", Promise08ReservedTest::wrongProcessors);
         Check.end();
     }
 
     private static void answersTheAddress() {
-        SharedMemory m = new SharedMemory(2);
-        long end = Check.BASE + 2 * Check.PAGE;
-        m.atomic(0, 2, Check.BASE, 8, 0);
-        m.atomic(1, 2, end - 4, 4, 0);
-        m.atomic(2, 2, end - 8, 8, 0);
-        Check.same("the first address", m.reserved(0), Check.BASE);
-        Check.same("the last four", m.reserved(1), end - 4);
-        Check.same("the last eight", m.reserved(2), end - 8);
-        Check.same("none", m.reserved(3), 0);
-        Check.same("asking keeps it", m.reserved(0), Check.BASE);
-        m.store(Check.BASE + 8, 8, 1);
-        Check.same("a store behind it keeps it", m.reserved(0), Check.BASE);
-        m.store(Check.BASE + 7, 1, 1);
-        Check.same("a store into it loses it", m.reserved(0), 0);
-        m.fill(end - 1, end, 0);
-        Check.same("a fill loses it", m.reserved(1), 0);
-        Check.same("a fill loses the other", m.reserved(2), 0);
+        long last = Check.BASE + 1024 * Check.PAGE;
+        for (long at : new long[] {Check.BASE, Check.BASE + 4, Check.EDGE - 4, Check.EDGE, last - 8, last - 4}) {
+            for (int p = 0; p < 4; p++) {
+                SharedMemory m = new SharedMemory(1024);
+                m.atomic(p, Check.RESERVE, at, 4, 0);
+                Check.same("four", m.reserved(p), at);
+                Check.same("asking keeps it", m.reserved(p), at);
+                if (at % 8 == 0) {
+                    m.atomic(p, Check.RESERVE, at, 8, 0);
+                    Check.same("eight", m.reserved(p), at);
+                }
+            }
+        }
+    }
+
+    private static void zeroAtFirst() {
+        for (int p = 0; p < 4; p++) {
+            SharedMemory m = new SharedMemory(1);
+            Check.same("a new object", m.reserved(p), 0);
+            m.atomic((p + 3) % 4, Check.RESERVE, Check.AT, 8, 0);
+            Check.same("another has one", m.reserved(p), 0);
+        }
+    }
+
+    private static void zeroWhenItIsGone() {
+        SharedMemory m = new SharedMemory(1);
+        m.atomic(1, Check.RESERVE, Check.AT, 8, 0);
+        m.drop(1);
+        Check.same("dropped", m.reserved(1), 0);
+        m.atomic(1, Check.RESERVE, Check.AT, 8, 0);
+        m.store(Check.AT + 7, 1, 0);
+        Check.same("lost by a store", m.reserved(1), 0);
+        m.atomic(1, Check.RESERVE, Check.AT, 8, 0);
+        m.atomic(1, Check.CONDITIONAL, Check.AT, 8, 0);
+        Check.same("used up", m.reserved(1), 0);
+        m.atomic(1, Check.RESERVE, Check.AT, 8, 0);
+        m.atomic(1, Check.CONDITIONAL, Check.AT, 4, 0);
+        Check.same("used up in vain", m.reserved(1), 0);
     }
 
     private static void wrongProcessors() {
-        SharedMemory m = new SharedMemory(1);
-        for (int p : new int[] {-1, 4, 5, Integer.MAX_VALUE, Integer.MIN_VALUE}) {
-            Check.failsAndKeeps("reserved " + p, Check.INDEX, m, () -> m.reserved(p));
+        for (int p : Check.WRONG_PROCESSORS) {
+            Check.refused("reserved " + p, Check.INDEX, m -> m.reserved(p));
         }
     }
 }
