@@ -8,10 +8,14 @@ import java.util.TreeSet;
 
 /** The public face is the document's, and LANGUAGE.md's rules 1 and 5 that can be seen from outside. */
 public final class FaceTest {
+    private static final String SIZE_OR_PLACE = " throws IllegalArgumentException,IndexOutOfBoundsException";
+    private static final String PLACE = " throws IndexOutOfBoundsException";
     private static final Set<String> DUE = Set.of(
-            "int pages()", "long load(long,int)", "void store(long,int,long)", "void fill(long,long,int)",
-            "long atomic(int,int,long,int,long)", "boolean drop(int)", "long reserved(int)",
-            "long writes(int)", "long sum(int)", "int used()");
+            "int pages()", "long load(long,int)" + SIZE_OR_PLACE, "void store(long,int,long)" + SIZE_OR_PLACE,
+            "void fill(long,long,int)" + SIZE_OR_PLACE,
+            "long atomic(int,int,long,int,long)" + SIZE_OR_PLACE + ",IllegalStateException",
+            "boolean drop(int)" + PLACE, "long reserved(int)" + PLACE, "long writes(int)" + PLACE,
+            "long sum(int)" + PLACE, "int used()");
 
     public static void main(String[] args) {
         Class<?> c = SharedMemory.class;
@@ -49,11 +53,17 @@ public final class FaceTest {
     }
 
     private static String face(Method m) {
+        String thrown = names(m.getExceptionTypes());
+        return m.getReturnType().getSimpleName() + " " + m.getName() + "(" + names(m.getParameterTypes()) + ")"
+            + (thrown.isEmpty() ? "" : " throws " + thrown);
+    }
+
+    private static String names(Class<?>[] classes) {
         StringBuilder text = new StringBuilder();
-        for (Class<?> p : m.getParameterTypes()) {
-            text.append(text.length() == 0 ? "" : ",").append(p.getSimpleName());
+        for (Class<?> c : classes) {
+            text.append(text.length() == 0 ? "" : ",").append(c.getSimpleName());
         }
-        return m.getReturnType().getSimpleName() + " " + m.getName() + "(" + text + ")";
+        return text.toString();
     }
 
     private static boolean isPrivate(Member m) {

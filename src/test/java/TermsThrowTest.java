@@ -36,8 +36,13 @@ public final class TermsThrowTest {
             Check.refused("none of size, kind " + kind, Check.ARGUMENT, m -> m.atomic(0, kind, Check.BASE, 2, 1));
             Check.refused("outside, kind " + kind, Check.INDEX, m -> m.atomic(0, kind, END, 4, 1));
             Check.refused("half outside, kind " + kind, Check.INDEX, m -> m.atomic(2, kind, END - 4, 8, 1));
-            Check.refused("not divided, kind " + kind, Check.STATE, m -> m.atomic(0, kind, Check.BASE + 4, 8, 1));
-            Check.refused("not divided, kind " + kind, Check.STATE, m -> m.atomic(3, kind, AT + 2, 4, 1));
+            for (int p = 0; p < 4; p++) {
+                int processor = p;
+                Check.refused("eight not divided, kind " + kind, Check.STATE,
+                    m -> m.atomic(processor, kind, AT + 4, 8, 1));
+                Check.refused("four not divided, kind " + kind, Check.STATE,
+                    m -> m.atomic(processor, kind, AT + 2, 4, 1));
+            }
             Check.refused("no processor, kind " + kind, Check.INDEX, m -> m.atomic(4, kind, AT, 4, 1));
         }
         Check.refused("none of kind", Check.ARGUMENT, m -> m.atomic(0, 5, Check.BASE, 8, 1));
