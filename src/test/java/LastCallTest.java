@@ -12,7 +12,7 @@ public final class LastCallTest {
         Check.end();
     }
 
-    private static void storesOverEdges() {
+    static void storesOverEdges() {
         SharedMemory m = new SharedMemory(1024);
         for (int i = 0; i < CALLS - 1; i++) {
             m.store(Check.BASE + (2 * i + 1) * Check.PAGE - 4, 8, -1);
@@ -20,7 +20,7 @@ public final class LastCallTest {
         Check.same("pages used by 511 stores", m.used(), 1022);
     }
 
-    private static void fillsOfAll() {
+    static void fillsOfAll() {
         SharedMemory m = new SharedMemory(1024);
         for (int i = 0; i < CALLS - 1; i++) {
             m.fill(Check.BASE + i, END - i, i);
@@ -28,7 +28,7 @@ public final class LastCallTest {
         Check.same("writes of 511 fills", m.writes(512), 511);
     }
 
-    private static void bytesAndFillsInTurn() {
+    static void bytesAndFillsInTurn() {
         SharedMemory m = new SharedMemory(1024);
         for (int i = 0; i < CALLS / 2 - 1; i++) {
             m.fill(Check.BASE, END, 1);
@@ -38,7 +38,7 @@ public final class LastCallTest {
         Check.same("the sum after 511 calls", m.sum(1023), 8390656L);
     }
 
-    private static void reservations() {
+    static void reservations() {
         SharedMemory m = new SharedMemory(1);
         for (int i = 0; i < CALLS / 2; i++) {
             Check.same("reserve", m.atomic(i % 4, Check.RESERVE, Check.AT, 8, 0), i);
@@ -46,7 +46,7 @@ public final class LastCallTest {
         }
     }
 
-    private static void callsThatThrow() {
+    static void callsThatThrow() {
         SharedMemory m = new SharedMemory(1);
         for (int i = 0; i < CALLS - 1; i++) {
             Check.fails("store", Check.INDEX, () -> m.store(0, 8, 1));
